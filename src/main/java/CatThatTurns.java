@@ -87,7 +87,7 @@ public final class CatThatTurns {
         if (!isWithin(n, 1, 8)) {
             return BAD;
         }
-        return text.takes(n, v) ? text.length : FULL;
+        return text.takesBytes(n, v) ? text.length : FULL;
     }
 
     public int wipe() {
@@ -106,7 +106,7 @@ public final class CatThatTurns {
         }
         // What was searched of a body stays true of the same body laid again.
         if (!draft.isAs(body)) {
-            body.becomes(draft);
+            body.copyBody(draft);
             search.forget();
             withoutFirst.forget();
             withoutSecond.forget();
@@ -334,7 +334,7 @@ public final class CatThatTurns {
         if (keptSheets < 0 || keptSheets >= kept.length || kept[keptSheets] == null) {
             return FULL;
         }
-        kept[keptSheets].becomes(sheet);
+        kept[keptSheets].copySheet(sheet);
         keptSheets++;
         return keptSheets;
     }
@@ -344,7 +344,7 @@ public final class CatThatTurns {
         if (last < 0 || last >= kept.length || kept[last] == null) {
             return NO;
         }
-        sheet.becomes(kept[last]);
+        sheet.copySheet(kept[last]);
         keptSheets = last;
         return keptSheets;
     }
@@ -432,7 +432,7 @@ public final class CatThatTurns {
         private final int[] bytes = new int[MOST_BYTES];
         private int length;
 
-        boolean takes(int n, long v) {
+        boolean takesBytes(int n, long v) {
             if (n < 0 || n > MOST_BYTES - length) {
                 return false;
             }
@@ -541,7 +541,9 @@ public final class CatThatTurns {
         private final int[] degrees = new int[MOST_JOINTS];
         private int parts;
         private int joints;
+        /** The joint that wags, or NONE; with how many steps it is round. */
         private int wagging = NONE;
+        private int stepsRound;
         private int push;
         private int right = USUAL_RIGHT;
 
@@ -549,6 +551,7 @@ public final class CatThatTurns {
             parts = 0;
             joints = 0;
             wagging = NONE;
+            stepsRound = 0;
             push = 0;
             right = USUAL_RIGHT;
         }
@@ -579,6 +582,7 @@ public final class CatThatTurns {
                 return false;
             }
             wagging = joints - 1;
+            stepsRound = cut(CIRCLE, step);
             return true;
         }
 
@@ -610,7 +614,7 @@ public final class CatThatTurns {
 
         int loadOf(int part, int pose) {
             int at = part * POSES + pose;
-            return isWithin(pose, 0, POSES - 1) && at >= 0 && at < loads.length ? loads[at] : 0;
+            return pose >= 0 && pose < POSES && at >= 0 && at < loads.length ? loads[at] : 0;
         }
 
         int loadAtRest() {
@@ -631,7 +635,7 @@ public final class CatThatTurns {
 
         /** In how many steps a joint can stand. */
         int stepsOf(int joint) {
-            return isWagging(joint) ? cut(CIRCLE, stepOf(joint)) : 2 * MOST_BENDS + 1;
+            return isWagging(joint) ? stepsRound : 2 * MOST_BENDS + 1;
         }
 
         int lowestOf(int joint) {
@@ -650,7 +654,7 @@ public final class CatThatTurns {
             return same;
         }
 
-        void becomes(Body other) {
+        void copyBody(Body other) {
             for (int i = 0; i < loads.length && i < other.loads.length; i++) {
                 loads[i] = other.loads[i];
             }
@@ -660,6 +664,7 @@ public final class CatThatTurns {
             parts = other.parts;
             joints = other.joints;
             wagging = other.wagging;
+            stepsRound = other.stepsRound;
             push = other.push;
             right = other.right;
         }
@@ -670,8 +675,9 @@ public final class CatThatTurns {
         private final Body body;
         private final int[] poses = new int[MOST_PARTS];
         private final int[] steps = new int[MOST_JOINTS];
-        /** By how much the last move turned part 0, leaving aside what the body is begun with. */
-        private int spin;
+        /** The joint that the last move turned, and by how many degrees; 0 if it turned none. */
+        private int turnedJoint;
+        private int turnedBy;
 
         Shape(Body body) {
             this.body = body;
@@ -680,7 +686,7 @@ public final class CatThatTurns {
         void rest() {
             Arrays.fill(poses, POSE_AT_REST);
             Arrays.fill(steps, 0);
-            spin = 0;
+            turnedBy = 0;
         }
 
         boolean isStraight() {
@@ -719,47 +725,48 @@ public final class CatThatTurns {
             return sum;
         }
 
-        /** By how much part 0 turns if a joint is turned by so many degrees. */
-        int turnedBack(int joint, int by) {
-            return -cut(by * loadFrom(joint + 1), loadFrom(0));
+        /** By how much the last move turns part 0, leaving aside what the body is begun with. */
+        int lastTurn() {
+            return turnedBy == 0 ? 0 : -cut(turnedBy * loadFrom(turnedJoint + 1), loadFrom(0));
         }
 
         /** Makes a move; false if it fails, and then nothing is changed. */
-        boolean takes(int move) {
+        boolean makes(int move) {
             if (move < 0 || move > LAST_MOVE) {
                 return false;
             }
             if (move >= FIRST_POSE_MOVE) {
-                return takesPose((move - FIRST_POSE_MOVE) / POSES, (move - FIRST_POSE_MOVE) % POSES);
+                return makesPose((move - FIRST_POSE_MOVE) / POSES, (move - FIRST_POSE_MOVE) % POSES);
             }
             if (move > 0) {
-                return takesStep((move - 1) / 2, move % 2 == 1 ? 1 : -1);
+                return makesStep((move - 1) / 2, move % 2 == 1 ? 1 : -1);
             }
-            spin = 0;
+            turnedBy = 0;
             return true;
         }
 
-        private boolean takesPose(int part, int pose) {
+        private boolean makesPose(int part, int pose) {
             if (part < 0 || part >= poses.length || part >= body.parts || poses[part] == pose) {
                 return false;
             }
             poses[part] = pose;
-            spin = 0;
+            turnedBy = 0;
             return true;
         }
 
-        private boolean takesStep(int joint, int by) {
+        private boolean makesStep(int joint, int by) {
             if (joint < 0 || joint >= steps.length || joint >= body.joints) {
                 return false;
             }
             int step = steps[joint] + by;
             if (body.isWagging(joint)) {
-                step = Math.floorMod(step, Math.max(body.stepsOf(joint), 1));
+                step = Math.floorMod(step, Math.max(body.stepsRound, 1));
             } else if (!isWithin(step, -MOST_BENDS, MOST_BENDS)) {
                 return false;
             }
             steps[joint] = step;
-            spin = turnedBack(joint, by * body.stepOf(joint));
+            turnedJoint = joint;
+            turnedBy = by * body.stepOf(joint);
             return true;
         }
     }
@@ -776,7 +783,7 @@ public final class CatThatTurns {
             pictures = 0;
         }
 
-        void becomes(Sheet other) {
+        void copySheet(Sheet other) {
             for (int i = 0; i < moves.length && i < other.moves.length; i++) {
                 moves[i] = other.moves[i];
             }
@@ -869,9 +876,9 @@ public final class CatThatTurns {
             done = 0;
             note(turn);
             int length = Math.min(sheet.lengthOf(way), MOST_MOVES);
-            while (done < length && shape.takes(sheet.moveAt(way, done))) {
+            while (done < length && shape.makes(sheet.moveAt(way, done))) {
                 done++;
-                turn += shape.spin;
+                turn += shape.lastTurn();
                 note(turn);
             }
             all = done == length;
@@ -952,8 +959,8 @@ public final class CatThatTurns {
 
         private int measureWith(int measure, int joint) {
             shape.rest();
-            int step = body.stepOf(joint);
-            int atRest = shape.turnedBack(joint, step);
+            shape.makes(1 + 2 * joint);
+            int atRest = shape.lastTurn();
             int found = body.isWagging(joint) ? common(measure, body.stepsOf(joint) * atRest) : measure;
             for (int pose0 = 0; pose0 < POSES; pose0++) {
                 for (int pose1 = 0; pose1 < POSES; pose1++) {
@@ -961,7 +968,7 @@ public final class CatThatTurns {
                         shape.poses[0] = pose0;
                         shape.poses[1] = pose1;
                         shape.poses[2] = pose2;
-                        found = common(found, shape.turnedBack(joint, step) - atRest);
+                        found = common(found, shape.lastTurn() - atRest);
                     }
                 }
             }
@@ -1002,7 +1009,7 @@ public final class CatThatTurns {
         }
 
         /** Makes ready for the body as it is now; a shape's moves are told when it is asked for. */
-        void prepare() {
+        void numberShapes() {
             int poses = 1;
             for (int k = 0; k < body.parts && k < MOST_PARTS; k++) {
                 poses *= POSES;
@@ -1021,20 +1028,20 @@ public final class CatThatTurns {
             Arrays.fill(amounts, 0);
             shape.rest();
             Arrays.fill(shape.poses, 0);
-            firstStraight = number();
+            firstStraight = numberNow();
             lastStraight = firstStraight + poses - 1;
         }
 
         int numberAtRest() {
             shape.rest();
-            return number();
+            return numberNow();
         }
 
-        boolean isStraight(int number) {
+        boolean isStraightAt(int number) {
             return number >= firstStraight && number <= lastStraight;
         }
 
-        private int number() {
+        private int numberNow() {
             int number = 0;
             for (int j = places.length - 1; j >= 0; j--) {
                 number = number * places[j] + shape.steps[j] - lowest[j];
@@ -1074,9 +1081,9 @@ public final class CatThatTurns {
             become(from);
             for (int move = 0; move <= LAST_MOVE; move++) {
                 int at = from * MOST_BRANCHES + found;
-                if (!isStiff(move) && at >= 0 && at < branches.length && shape.takes(move)) {
-                    int turn = shape.spin + cut(body.push, shape.loadFrom(0));
-                    branches[at] = move | number() << SHAPE_AT | Math.floorMod(turn, CIRCLE) << TURN_AT;
+                if (!isStiff(move) && at >= 0 && at < branches.length && shape.makes(move)) {
+                    int turn = shape.lastTurn() + cut(body.push, shape.loadFrom(0));
+                    branches[at] = move | numberNow() << SHAPE_AT | Math.floorMod(turn, CIRCLE) << TURN_AT;
                     found++;
                     become(from);
                 }
@@ -1112,7 +1119,7 @@ public final class CatThatTurns {
             return branch >> SHAPE_AT & (1 << TURN_AT - SHAPE_AT) - 1;
         }
 
-        static int turnOf(int branch) {
+        static int angleOf(int branch) {
             return branch >> TURN_AT;
         }
     }
@@ -1189,7 +1196,7 @@ public final class CatThatTurns {
                 int from = links[state] >> NEXT_BITS;
                 int branch = table.branchBetween(from, state / CIRCLE);
                 move = Table.moveOf(branch);
-                state = from * CIRCLE + Math.floorMod(state % CIRCLE - Table.turnOf(branch), CIRCLE);
+                state = from * CIRCLE + Math.floorMod(state % CIRCLE - Table.angleOf(branch), CIRCLE);
             }
             return move;
         }
@@ -1200,7 +1207,7 @@ public final class CatThatTurns {
             }
             isReady = true;
             isOpen = true;
-            table.prepare();
+            table.numberShapes();
             makeRoom(table.shapes * CIRCLE);
             Arrays.fill(links, NOT_FOUND);
             Arrays.fill(ticks, NOT_FOUND);
@@ -1230,28 +1237,23 @@ public final class CatThatTurns {
             int many = table.branchesOf(shape);
             for (int i = 0; i < many; i++) {
                 int branch = table.branch(shape, i);
-                int to = Table.shapeOf(branch);
-                int turn = turned + Table.turnOf(branch);
-                if (turn >= CIRCLE) {
-                    turn -= CIRCLE;
+                int turn = turned + Table.angleOf(branch);
+                int state = Table.shapeOf(branch) * CIRCLE + (turn < CIRCLE ? turn : turn - CIRCLE);
+                if (state >= 0 && state < links.length && links[state] == NOT_FOUND) {
+                    links[state] = shape << NEXT_BITS | NO_NEXT;
+                    enqueue(state);
                 }
-                find(to, turn, shape);
             }
             goOn();
         }
 
-        private void find(int shape, int turn, int from) {
-            int state = shape * CIRCLE + turn;
-            if (state < 0 || state >= links.length || links[state] != NOT_FOUND) {
-                return;
-            }
-            links[state] = from << NEXT_BITS | NO_NEXT;
+        private void enqueue(int state) {
             if (last >= 0 && last < links.length) {
                 links[last] = links[last] & ~NO_NEXT | state;
             }
             last = state;
-            if (table.isStraight(shape)) {
-                answer(turn, state, tick + 1);
+            if (table.isStraightAt(state / CIRCLE)) {
+                answer(state % CIRCLE, state, tick + 1);
             }
         }
 
