@@ -10,6 +10,7 @@ public final class BodiesTest {
         numbersAndFaults();
         laying();
         layingAnew();
+        layingAlmostTheSame();
         C.end();
     }
 
@@ -203,6 +204,41 @@ public final class BodiesTest {
         C.due("begun(1) without", cat.begun(1), 10);
         C.due("load(2, 0)", cat.load(2, 0), -1);
         C.due("joint(1, 0)", cat.joint(1, 0), -1);
+    }
+
+    /** Bodies that differ in one number: all is asked of the one that is laid. */
+    private static void layingAlmostTheSame() {
+        String[] texts = {"p2,3,4;p5,6,7;p8,9,10;j20;w60;l5;e6;", "p1,3,4;p5,6,7;p8,9,10;j20;w60;l5;e6;",
+            "p1,3,4;p5,6,7;p8,9,11;j20;w60;l5;e6;", "p1,3,4;p5,6,7;p8,9,11;j21;w60;l5;e6;",
+            "p1,3,4;p5,6,7;p8,9,11;j21;w90;l5;e6;", "p1,3,4;p5,6,7;p8,9,11;j21;j90;l5;e6;",
+            "p1,3,4;p5,6,7;p8,9,11;j21;w90;l5;e6;", "p1,3,4;p5,6,7;p8,9,11;w90;j21;l5;e6;",
+            "p1,3,4;p5,6,7;p8,9,11;w90;j90;l5;e6;", "p1,3,4;p5,6,7;p8,9,11;j90;w90;l5;e6;",
+            "p1,3,4;p5,6,7;p8,9,11;j90;w90;l50;e6;", "p1,3,4;p5,6,7;p8,9,11;j90;w90;l50;e8;",
+            "p1,3,4;p5,6,7;w90;l50;e8;", "p1,3,4;p5,6,7;j90;l50;e8;", "p1,3,4;p5,6,7;j90;e8;", "p1,3,4;p5,6,7;j90;",
+            "p1,3,4;p5,6,7;p8,9,11;j90;w90;"};
+        CatThatTurns cat = new CatThatTurns();
+        for (String text : texts) {
+            Checks.put(cat, text);
+            CatThatTurns fresh = Checks.laid(text);
+            C.due("lay() of " + text, cat.lay(), fresh.count(0));
+            for (int i = 0; i < 9; i++) {
+                C.due("load of " + text, cat.load(i / 3, i % 3), fresh.load(i / 3, i % 3));
+            }
+            for (int i = 0; i < 4; i++) {
+                C.due("joint of " + text, cat.joint(i / 2, i % 2), fresh.joint(i / 2, i % 2));
+            }
+            C.due("begun(0) of " + text, cat.begun(0), fresh.begun(0));
+            C.due("begun(1) of " + text, cat.begun(1), fresh.begun(1));
+            for (int turn = 5; turn < 360; turn += 50) {
+                for (int i = 3; i >= -1; i--) {
+                    C.due("soon of " + text, cat.soon(turn, i), fresh.soon(turn, i));
+                }
+                C.due("worth of " + text, cat.worth(0, turn), fresh.worth(0, turn));
+                C.due("worth of " + text, cat.worth(1, turn), fresh.worth(1, turn));
+            }
+            C.due("saved of " + text, cat.saved(20), fresh.saved(20));
+            C.due("free of " + text, cat.free(1), fresh.free(1));
+        }
     }
 
     private static void layingAnew() {

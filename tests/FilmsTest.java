@@ -208,6 +208,16 @@ public final class FilmsTest {
         C.due("run(0, 2)", cat.run(0, 2), 0);
         C.due("may(0, 0)", cat.may(0, 0), 1);
         C.due("may(0, 3)", cat.may(0, 3), 0);
+        // Every number of every picture comes back, though others were taken since.
+        cat.keep();
+        cat.noFilm();
+        for (int i = 0; i < 5; i++) {
+            cat.picture(60, 1, 200, 90);
+        }
+        C.due("back()", cat.back(), 1);
+        C.due("count(3)", cat.count(3), 2);
+        C.due("looked(0, 0)", cat.looked(0, 0), 1);
+        C.due("looked(0, 1)", cat.looked(0, 1), 0);
         // What is taken back may be changed; what is kept below it stays.
         Checks.moves(cat, 0, 0);
         cat.noFilm();

@@ -119,6 +119,12 @@ public final class SoonTest {
         // Twice bent, twice bent back turns 20; of the rows of five 1 1 12 2 2 is the first.
         soonRow(cat, 31, 1, 1, 12, 2, 2);
         soonRow(cat, 40, 1, 1, 12, 2, 2);
+        // Straight in any poses: stretched, both turn by 9 a tick, one alone by 1.
+        cat = Checks.laid("p9,9,1;p9,9,1;j1;l18;e0;");
+        soonRow(cat, 350, 12, 15);
+        soonRow(cat, 341, 12, 15, 0);
+        cat = Checks.laid("p1,9,9;p1,9,9;j1;l18;e0;");
+        soonRow(cat, 350, 10, 13);
         // A wag that turns 12 back a step goes either way; three rounds of it are as far as two steps.
         cat = Checks.laid("p9,9,9;p1,1,1;w120;e0;");
         soonRow(cat, 36, 1, 1, 1);
@@ -193,6 +199,22 @@ public final class SoonTest {
         C.due("free(1)", cat.free(1), 45);
         cat = Checks.laid("p1,1,1;p1,1,1;w90;");
         C.due("free(1)", cat.free(1), 2);
+        C.due("fewest()", cat.fewest(), 1);
+        // 40 by half is 20, by one of four 10, three of four 30: whichever part, whichever pose.
+        String[] one = {"p1,3,3;p1,1,1;j40;", "p3,1,3;p1,1,1;j40;", "p3,3,1;p1,1,1;j40;", "p3,3,3;p1,3,3;j40;",
+            "p3,3,3;p3,1,3;j40;", "p3,3,3;p3,3,1;j40;", "p1,1,1;p1,1,3;j40;", "p1,1,1;p3,1,1;j40;"};
+        for (String text : one) {
+            C.due("free(1) of " + text, Checks.laid(text).free(1), 36);
+            C.due("fewest() of " + text, Checks.laid(text).fewest(), 1);
+        }
+        String[] three = {"p1,1,1;p1,1,1;p3,2,2;j60;j60;", "p1,1,1;p2,2,3;p1,1,1;j60;j60;",
+            "p3,2,2;p1,1,1;p1,1,1;j60;j60;", "p1,3,1;p2,3,1;p3,1,2;w72;j60;", "p4,4,4;p4,4,4;p4,4,4;j7;w30;"};
+        for (String text : three) {
+            for (int joints = 0; joints < 4; joints++) {
+                C.due("free(" + joints + ") of " + text, Checks.laid(text).free(joints), plain(text).free(joints));
+            }
+            C.due("fewest() of " + text, Checks.laid(text).fewest(), plain(text).fewest());
+        }
         // 99 of 100 ahead: a step of 90 turns nothing; fewest is none, whatever it is begun with.
         cat = Checks.laid("p99,99,99;p1,1,1;w90;l5000;");
         C.due("free(1)", cat.free(1), 1);
