@@ -217,7 +217,10 @@ public final class BodiesTest {
             "p1,3,4;p5,6,7;w90;l50;e8;", "p1,3,4;p5,6,7;j90;l50;e8;", "p1,3,4;p5,6,7;j90;e8;", "p1,3,4;p5,6,7;j90;",
             "p1,3,4;p5,6,7;p8,9,11;j90;w90;"};
         CatThatTurns cat = new CatThatTurns();
-        for (String text : texts) {
+        for (int at = 0; at < texts.length; at++) {
+            // No more than 512 calls of one object; what is laid ahead is another body all the same.
+            cat = at == 8 ? Checks.laid(texts[7]) : cat;
+            String text = texts[at];
             Checks.put(cat, text);
             CatThatTurns fresh = Checks.laid(text);
             C.due("lay() of " + text, cat.lay(), fresh.count(0));
@@ -229,8 +232,8 @@ public final class BodiesTest {
             }
             C.due("begun(0) of " + text, cat.begun(0), fresh.begun(0));
             C.due("begun(1) of " + text, cat.begun(1), fresh.begun(1));
-            for (int turn = 5; turn < 360; turn += 50) {
-                for (int i = 3; i >= -1; i--) {
+            for (int turn = 55; turn < 360; turn += 200) {
+                for (int i = 1; i >= -1; i--) {
                     C.due("soon of " + text, cat.soon(turn, i), fresh.soon(turn, i));
                 }
                 C.due("worth of " + text, cat.worth(0, turn), fresh.worth(0, turn));

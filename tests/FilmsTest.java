@@ -56,7 +56,7 @@ public final class FilmsTest {
         for (int turn = 0; turn < 360; turn++) {
             C.due("may(2, " + turn + ")", cat.may(2, turn), turn <= 10 || turn >= 330 ? 1 : 0);
         }
-        cat.noFilm();
+        cat = Checks.laid("p1,1,1;p1,1,1;j10;");
         cat.picture(0, 1, 10, 20);
         for (int turn = 0; turn < 360; turn++) {
             C.due("may(2, " + turn + ")", cat.may(2, turn), turn <= 30 || turn >= 350 ? 1 : 0);

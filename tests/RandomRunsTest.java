@@ -43,7 +43,7 @@ public final class RandomRunsTest {
 
     private static void oneRun(int mostParts, boolean many) {
         cheap(20);
-        while (calls < 480 && wrong == 0) {
+        while (calls < 440 && wrong == 0) {
             if (upTo(2) > 0) {
                 text(mostParts, upTo(9) == 0);
                 due("fault()", cat.fault(), plain.fault());
@@ -129,7 +129,7 @@ public final class RandomRunsTest {
     }
 
     private static void cheap(int many) {
-        for (int i = 0; i < many && wrong == 0; i++) {
+        for (int i = 0; i < many && wrong == 0 && calls < 510; i++) {
             int way = most(3);
             int turn = most(359);
             int parts = plain.body.parts.size();
@@ -240,7 +240,7 @@ public final class RandomRunsTest {
 
     private static void dear(int many) {
         int joints = plain.body.degrees.size();
-        for (int i = 0; i < many && wrong == 0; i++) {
+        for (int i = 0; i < many && wrong == 0 && calls < 475; i++) {
             int turn = most(359);
             switch (upTo(7)) {
                 case 0: case 1: case 2: {

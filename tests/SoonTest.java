@@ -19,6 +19,7 @@ public final class SoonTest {
         CatThatTurns cat = new CatThatTurns();
         for (int turn = 0; turn < 360; turn++) {
             boolean right = turn <= 10 || turn >= 350;
+            cat = turn % 120 == 0 ? new CatThatTurns() : cat;
             C.due("soon(" + turn + ", -1)", cat.soon(turn, -1), right ? 0 : -4);
             C.due("soon(" + turn + ", 0)", cat.soon(turn, 0), -4);
             C.due("worth(0, " + turn + ")", cat.worth(0, turn), right ? 0 : -4);
@@ -43,6 +44,7 @@ public final class SoonTest {
         for (int turn = 0; turn < 360; turn++) {
             int ticks = turn <= 5 ? 0 : (355 - turn + 4) / 5;
             ticks = Math.max(ticks, 0);
+            cat = turn % 6 == 0 ? Checks.laid("p1,1,1;p1,1,1;j10;l10;e5;") : cat;
             C.due("soon(" + turn + ", -1)", cat.soon(turn, -1), ticks);
             for (int i = 0; i < ticks; i++) {
                 C.due("soon(" + turn + ", " + i + ")", cat.soon(turn, i), 0);
@@ -158,7 +160,7 @@ public final class SoonTest {
             mixed.worth(turn % 2, turn);
             down.soon(turn, -1);
         }
-        for (int turn = 2; turn < 360; turn += 7) {
+        for (int turn = 2; turn < 360; turn += 35) {
             for (int i = -1; i <= up.soon(turn, -1); i++) {
                 C.due("soon(" + turn + ", " + i + ")", down.soon(turn, i), up.soon(turn, i));
                 C.due("soon(" + turn + ", " + i + ")", mixed.soon(turn, i), up.soon(turn, i));
@@ -173,6 +175,7 @@ public final class SoonTest {
     private static void falls() {
         CatThatTurns cat = new CatThatTurns();
         for (int t = 1; t <= 316; t++) {
+            cat = t % 200 == 0 ? new CatThatTurns() : cat;
             C.due("fall(" + t * t + ")", cat.fall(t * t), t);
             C.due("fall(" + (t * t - 1) + ")", cat.fall(t * t - 1), t - 1);
         }

@@ -67,7 +67,7 @@ public final class CatThatTurns {
         reader = new Reader(text, draft);
         sheet = new Sheet();
         kept = new Sheet[MOST_KEPT];
-        for (int i = 0; i < MOST_KEPT; i++) {
+        for (int i = 0; i < kept.length; i++) {
             kept[i] = new Sheet();
         }
         trace = new Trace(body);
@@ -514,6 +514,9 @@ public final class CatThatTurns {
         }
 
         private boolean takesItem(int letter, int amount) {
+            if (numbers.length < POSES) {
+                return false;
+            }
             if (letter == 'p') {
                 return amount == POSES && body.takesPart(numbers[0], numbers[1], numbers[2]);
             }
@@ -687,6 +690,26 @@ public final class CatThatTurns {
             Arrays.fill(poses, POSE_AT_REST);
             Arrays.fill(steps, 0);
             turnedBy = 0;
+        }
+
+        int poseOf(int part) {
+            return part >= 0 && part < poses.length ? poses[part] : POSE_AT_REST;
+        }
+
+        void takePose(int part, int pose) {
+            if (part >= 0 && part < poses.length) {
+                poses[part] = pose;
+            }
+        }
+
+        int stepsAt(int joint) {
+            return joint >= 0 && joint < steps.length ? steps[joint] : 0;
+        }
+
+        void takeSteps(int joint, int many) {
+            if (joint >= 0 && joint < steps.length) {
+                steps[joint] = many;
+            }
         }
 
         boolean isStraight() {
@@ -965,9 +988,9 @@ public final class CatThatTurns {
             for (int pose0 = 0; pose0 < POSES; pose0++) {
                 for (int pose1 = 0; pose1 < POSES; pose1++) {
                     for (int pose2 = 0; pose2 < POSES; pose2++) {
-                        shape.poses[0] = pose0;
-                        shape.poses[1] = pose1;
-                        shape.poses[2] = pose2;
+                        shape.takePose(0, pose0);
+                        shape.takePose(1, pose1);
+                        shape.takePose(2, pose2);
                         found = common(found, shape.lastTurn() - atRest);
                     }
                 }
@@ -1011,7 +1034,7 @@ public final class CatThatTurns {
         /** Makes ready for the body as it is now; a shape's moves are told when it is asked for. */
         void numberShapes() {
             int poses = 1;
-            for (int k = 0; k < body.parts && k < MOST_PARTS; k++) {
+            for (int k = 0; k < body.parts; k++) {
                 poses *= POSES;
             }
             shapes = poses;
@@ -1027,7 +1050,9 @@ public final class CatThatTurns {
             }
             Arrays.fill(amounts, 0);
             shape.rest();
-            Arrays.fill(shape.poses, 0);
+            for (int k = 0; k < body.parts; k++) {
+                shape.takePose(k, 0);
+            }
             firstStraight = numberNow();
             lastStraight = firstStraight + poses - 1;
         }
@@ -1043,24 +1068,24 @@ public final class CatThatTurns {
 
         private int numberNow() {
             int number = 0;
-            for (int j = places.length - 1; j >= 0; j--) {
-                number = number * places[j] + shape.steps[j] - lowest[j];
+            for (int j = Math.min(places.length, lowest.length) - 1; j >= 0; j--) {
+                number = number * places[j] + shape.stepsAt(j) - lowest[j];
             }
-            for (int k = Math.min(body.parts, MOST_PARTS) - 1; k >= 0; k--) {
-                number = number * POSES + shape.poses[k];
+            for (int k = body.parts - 1; k >= 0; k--) {
+                number = number * POSES + shape.poseOf(k);
             }
             return number;
         }
 
         private void become(int number) {
             int rest = number;
-            for (int k = 0; k < body.parts && k < MOST_PARTS; k++) {
-                shape.poses[k] = rest % POSES;
+            for (int k = 0; k < body.parts; k++) {
+                shape.takePose(k, rest % POSES);
                 rest /= POSES;
             }
-            for (int j = 0; j < places.length; j++) {
+            for (int j = 0; j < places.length && j < lowest.length; j++) {
                 int many = Math.max(places[j], 1);
-                shape.steps[j] = rest % many + lowest[j];
+                shape.takeSteps(j, rest % many + lowest[j]);
                 rest /= many;
             }
         }
