@@ -123,6 +123,9 @@ public final class EdgesOfSoonTest {
         rowOf("p1,1,1;p1,1,1;p2,2,2;w120;j1;e30;", 90, 2, 2, 2);
         rowOf("p2,2,2;p1,1,1;p1,1,1;j1;w120;e0;", 90, 3, 3, 3);
         rowOf("p2,2,2;p1,1,1;p1,1,1;j1;w120;e0;", 270, 4, 4, 4);
+        // All drawn in, not turned yet: 45 by 6 of 7 is 38 back, by 5 of 6 37 forth.
+        rowOf("p1,14,20;p6,14,5;w45;e0;", 1, 10, 13, 1, 15, 2);
+        rowOf("p9,11,19;p16,18,18;w120;e0;", 176, 10, 13, 2, 12, 2, 2);
         // Rounds of a wag take no order but by moves: 1 1 1 is ahead of all that begin with 2.
         rowOf("p1,1,1;p1,1,1;w90;e0;", 180, 1, 1, 1, 1);
         rowOf("p1,1,1;p1,1,1;w90;e90;", 180, 1, 1, 1, 1);
