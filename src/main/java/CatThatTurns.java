@@ -899,8 +899,8 @@ public final class CatThatTurns {
             done = 0;
             note(turn);
             int length = Math.min(sheet.lengthOf(way), MOST_MOVES);
-            while (done < length && shape.makes(sheet.moveAt(way, done))) {
-                done++;
+            for (int t = 0; t < length && shape.makes(sheet.moveAt(way, t)); t++) {
+                done = t + 1;
                 turn += shape.lastTurn();
                 note(turn);
             }
